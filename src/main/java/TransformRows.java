@@ -458,23 +458,18 @@ public final class TransformRows {
 
         /** What turns a table back, but for the factor of its determinant. */
         static void adjugate(long[] t, long[] out) {
-            putRow(out, 0, minor(t, 4, 8, 5, 7), minor(t, 2, 7, 1, 8), minor(t, 1, 5, 2, 4));
-            putRow(out, 1, minor(t, 5, 6, 3, 8), minor(t, 0, 8, 2, 6), minor(t, 2, 3, 0, 5));
-            putRow(out, 2, minor(t, 3, 7, 4, 6), minor(t, 1, 6, 0, 7), minor(t, 0, 4, 1, 3));
+            putRow(out, 0, t[4] * t[8] - t[5] * t[7], t[2] * t[7] - t[1] * t[8], t[1] * t[5] - t[2] * t[4]);
+            putRow(out, 1, t[5] * t[6] - t[3] * t[8], t[0] * t[8] - t[2] * t[6], t[2] * t[3] - t[0] * t[5]);
+            putRow(out, 2, t[3] * t[7] - t[4] * t[6], t[1] * t[6] - t[0] * t[7], t[0] * t[4] - t[1] * t[3]);
         }
 
         static long determinant(long[] t) {
-            return t[0] * minor(t, 4, 8, 5, 7) + t[1] * minor(t, 5, 6, 3, 8)
-                    + t[2] * minor(t, 3, 7, 4, 6);
+            return t[0] * (t[4] * t[8] - t[5] * t[7]) + t[1] * (t[5] * t[6] - t[3] * t[8])
+                    + t[2] * (t[3] * t[7] - t[4] * t[6]);
         }
 
         static long trace(long[] t) {
             return t[0] + t[4] + t[8];
-        }
-
-        /** The places are written out by the callers above, each of them 0 .. 8. */
-        private static long minor(long[] t, int a, int b, int c, int d) {
-            return t[a] * t[b] - t[c] * t[d];
         }
     }
 
@@ -844,6 +839,7 @@ public final class TransformRows {
             Tables.apply(turned, line, out);
         }
 
+        /** Changes the CONIC's row to that of its image. */
         void ofConic(long[] table, long[] conic) {
             Tables.adjugate(table, inverse);
             Tables.transpose(inverse, turned);
