@@ -498,7 +498,7 @@ public final class TransformRows {
         }
 
         int cell(int k, int i) {
-            return has(k) && i >= 0 && i < CELLS ? cells[k * CELLS + i] : 0;
+            return k >= 0 && k < size && i >= 0 && i < CELLS ? cells[k * CELLS + i] : 0;
         }
 
         void load(int k, long[] out) {
@@ -584,7 +584,7 @@ public final class TransformRows {
     /** Makes tables of the kinds 0 .. 8 from THE ROW. */
     private static final class Maker {
         private static final int DONE = 0;
-        /** Largest share of a POINT's row in the image of another by a table that has room. */
+        /** A table that has room takes no POINT's row to more than so many times another one. */
         private static final long LARGEST_WEIGHT = 3L * LARGEST * LARGEST;
         private final int[] sorts = new int[MOST_GIVEN];
         private final long[][] given = new long[MOST_GIVEN][3];
@@ -768,7 +768,7 @@ public final class TransformRows {
             Tables.putRow(out, 2, 0, 0, w);
         }
 
-        /** The sides of three POINTS, each across from its POINT; whether they make a triangle. */
+        /** The sides of three POINTS, each across from its POINT; whether they are on no one LINE. */
         private boolean findSides(int start, long[][] sides) {
             if (start < 0 || start + 2 >= MOST_GIVEN) {
                 return false;
@@ -780,9 +780,9 @@ public final class TransformRows {
         }
 
         /**
-         * How often each of the first three POINTS' rows counts, that the fourth goes to the fourth.
-         * A table that has room takes the row of a POINT to LARGEST_WEIGHT times another at most, so
-         * larger weights say that there is NO ROOM; testing them early keeps all within a long.
+         * How often each of the first three POINTS' rows counts, so that the fourth goes to the
+         * fourth; false if one is above LARGEST_WEIGHT: then there is NO ROOM for the table. Telling
+         * this early, pair by pair, keeps all products within a long.
          */
         private boolean findWeights() {
             long from0 = Plane.dot(fromSides[0], given[3]);
@@ -926,7 +926,7 @@ public final class TransformRows {
         }
     }
 
-    /** Tells the KINDS apart. */
+    /** Tells the KINDS apart, by their numbers in the document. */
     private static final class Kinds {
         static boolean allStays(long[] t) {
             boolean onlyDiagonal = t[1] == 0 && t[2] == 0 && t[3] == 0 && t[5] == 0

@@ -164,6 +164,7 @@ public final class MakeTest {
         // 3 - i times as large, and by (-1 + i) / 2.
         int map = made(x, 5, 0, 0, x.point(1, 0, 2), x.point(0, 1, 2), e, x.point(0, 2, 1));
         CHECKS.mapDue("with halves", x, map, 6, 2, -1, -2, 6, 1, 0, 0, 2);
+        due("the same by others", made(x, 5, 0, 0, x.point(1, 1, 2), x.point(1, 0, 2), x.point(3, 3, 2), e), map);
         int large = x.point(500, 499, 1);
         int negative = x.point(500, -1, -499);
         due("one place to another", made(x, 5, 0, 0, large, negative, large, negative), 1);
@@ -232,6 +233,9 @@ public final class MakeTest {
         CHECKS.mapDue("FAR ones to near ones", x, made(x, 7, 0, 0, far, up, o, m, e, n, o, m),
                 1, 0, 0, 0, 1, 0, 1, 1, -1);
         CHECKS.mapDue("all stays", x, made(x, 7, 0, 0, o, e, n, m, o, e, n, m), 1, 0, 0, 0, 1, 0, 0, 0, 1);
+        // The unit rows count once, twice and five times: (2, 5, 6), (9, 5, 7) and (1, 1, 1) are theirs.
+        CHECKS.mapDue("by weights", x, made(x, 7, 0, 0, far, up, o, m, x.point(2, 5, 6), x.point(9, 5, 7), m,
+                x.point(25, 20, 25)), 2, 18, 5, 5, 10, 5, 6, 14, 5);
         // (x, y) goes to (y, 1 - x).
         CHECKS.mapDue("around a square", x, made(x, 7, 0, 0, o, e, m, n, n, o, e, m), 0, 1, 0, -1, 0, 1, 0, 0, 1);
     }

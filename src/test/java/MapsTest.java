@@ -244,6 +244,11 @@ public final class MapsTest {
         ownDue(x, Checks.any(x, 1, 0, 0, 1, 2, 0, 1, 1, 3), 1, 2, 3);
         ownDue(x, Checks.any(x, 0, 1, 0, 1, 0, 0, 0, 0, 1), -1, 1);
         ownDue(x, Checks.any(x, 1, 1, 0, 1, 0, 0, 0, 0, 1), 1);
+        ownDue(x, Checks.any(x, 5, 0, 1, 0, 1, 0, 0, 0, 1), 1, 5);
+        ownDue(x, Checks.any(x, 1, 0, 0, 1, 7, 0, 0, 0, 1), 1, 7);
+        ownDue(x, Checks.any(x, 1, 0, 0, 0, 1, 0, 0, 1, -9), -9, 1);
+        ownDue(x, Checks.any(x, 0, 4, 1, 0, 1, 0, 1, 0, 0), -1, 1);
+        ownDue(x, Checks.any(x, 1, 3, 0, 3, 1, 0, 0, 0, 1), -2, 1, 4);
         ownDue(x, Checks.any(x, 0, 0, 1, 1, 0, 1, 0, 1, 0));
         ownDue(x, Checks.any(x, 500, 500, 499, 500, 499, 500, 499, 500, 500), -1, 1, 1499);
         // Of the LEAST table, not of another one: (1 / 2) of all that stays is LEAST (1, 1, 2).
@@ -320,6 +325,11 @@ public final class MapsTest {
             }
         }
         due("a shift", x.order(Checks.shift(x, 1, 0), 60), 0);
+        for (int i : new int[] {1, 2, 3, 5, 6, 7}) {
+            int[] t = {1, 0, 0, 0, 1, 0, 0, 0, 1};
+            t[i] = 1;
+            due("all stays but for cell " + i, x.order(Checks.any(x, t), 60), 0);
+        }
         due("a shift soon without room", x.order(Checks.shift(x, 400, 0), 60), 0);
         due("a turn by no part of a whole", x.order(Checks.made(x, 1, 2, 1, o), 60), 0);
         // Four times is all, but for what it is done twice, by half around (300, 0), there is no room.

@@ -16,7 +16,6 @@ public final class ModelTest {
     private final Checks checks = new Checks("ModelTest");
     private final long[] kindsSeen = new long[17];
     private final long[] made = new long[9];
-    private final long[] refused = new long[5];
     private final long[] groupsSeen = new long[50];
     private final long[] ordersSeen = new long[61];
     private final long[] shapesSeen = new long[6];
@@ -56,10 +55,6 @@ public final class ModelTest {
 
     /** A comparison that never meets a case would tell nothing about it. */
     private void everythingWasSeen() {
-        System.out.println("kinds " + Arrays.toString(kindsSeen) + ", made " + Arrays.toString(made)
-                + ", refused " + Arrays.toString(refused) + ", shapes " + Arrays.toString(shapesSeen));
-        System.out.println("groups " + Arrays.toString(groupsSeen));
-        System.out.println("orders " + Arrays.toString(ordersSeen));
         for (int size : new int[] {0, 1, 2, 3, 4, 6, 8, 24, 49}) {
             checks.holds("a group of " + size + " was seen (49: NO ROOM)", groupsSeen[size] > 0);
         }
@@ -273,9 +268,6 @@ public final class ModelTest {
         String text = name + Arrays.toString(a);
         log.add(text + " = " + want);
         checks.due(text, got, want);
-        if (want < 0 && want >= -4) {
-            refused[(int) -want]++;
-        }
         if (name.equals("kind") && want >= 0) {
             kindsSeen[(int) want]++;
         }
