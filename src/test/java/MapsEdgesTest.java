@@ -50,6 +50,7 @@ public final class MapsEdgesTest {
         ordersJustSoOften();
         ordersOfNone();
         ordersWithoutRoom();
+        takenOnesChangeNoMore();
         CHECKS.end();
     }
 
@@ -71,6 +72,40 @@ public final class MapsEdgesTest {
 
     private static int[] p(int... numbers) {
         return numbers;
+    }
+
+    /** A call that is taken changes what it tells and no more: as if the same had come in by another one. */
+    private static void takenOnesChangeNoMore() {
+        Refused.Part start = x -> {
+            Starts.given(x);
+            x.line(1, 1, 0);
+        };
+        sameAs("join", start, x -> x.join(ORIGIN, CORNER), x -> x.line(1, -1, 0));
+        sameAs("image", start, x -> x.image(QUARTER, CORNER), x -> x.point(-1, 1, 1));
+        sameAs("fixed", start, x -> x.fixed(MIRROR, 0), x -> x.point(0, 1, 0));
+        Refused.Part noRow = x -> {
+            Starts.some(x);
+            x.line(1, 1, 0);
+        };
+        sameAs("then", noRow, x -> x.then(QUARTER, MIRROR), x -> Checks.made(x, 2, 0, 0, 9));
+        sameAs("back", noRow, x -> x.back(QUARTER), x -> Checks.made(x, 1, -1, 1, ORIGIN));
+        sameAs("then, with one in THE ROW", x -> {
+            noRow.on(x);
+            x.then(QUARTER, MIRROR);
+        }, x -> x.give(CORNER), x -> {
+            x.give(CORNER);
+            return x.then(QUARTER, MIRROR);
+        });
+    }
+
+    private static void sameAs(String what, Refused.Part start, Refused.Call one, Refused.Call other) {
+        REFUSED.same(what, x -> {
+            start.on(x);
+            one.on(x);
+        }, x -> {
+            start.on(x);
+            other.on(x);
+        });
     }
 
     // ---- Promise 12
