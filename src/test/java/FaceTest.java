@@ -7,6 +7,7 @@ import java.nio.file.Files;
 import java.nio.file.Path;
 import java.util.Set;
 import java.util.TreeSet;
+import java.util.regex.Matcher;
 import java.util.regex.Pattern;
 
 /** The public face is the document's and no more; the source keeps out what LANGUAGE.md rules out. */
@@ -24,13 +25,21 @@ public final class FaceTest {
         "\\w+Exact", "->", "::", "hashCode", "toString", "native", "volatile",
     };
 
+    /** What the source uses of what LANGUAGE.md lists. */
+    private static final Set<String> LIBRARY = Set.of("Math.abs", "Math.max", "Math.min", "System.arraycopy",
+            "Long.MIN_VALUE");
+
     public static void main(String[] args) throws IOException {
         Checks checks = new Checks("FaceTest");
         methods(checks);
         fields(checks);
         constructors(checks);
         insideClasses(checks);
-        source(checks);
+        String code = code();
+        words(checks, code);
+        library(checks, code);
+        newOnes(checks, code);
+        parts(checks, code);
         checks.end();
     }
 
@@ -101,12 +110,71 @@ public final class FaceTest {
         }
     }
 
-    private static void source(Checks checks) throws IOException {
+    /** The source without its comments, line for line. */
+    private static String code() throws IOException {
         String text = Files.readString(Path.of("src/main/java/TransformRows.java"));
-        String code = text.replaceAll("(?s)/\\*.*?\\*/", " ").replaceAll("//[^\n]*", " ");
+        Matcher comments = Pattern.compile("(?s)/\\*.*?\\*/|//[^\n]*").matcher(text);
+        return comments.replaceAll(found -> found.group().replaceAll("[^\n]", ""));
+    }
+
+    private static void words(Checks checks, String code) {
         for (String word : RULED_OUT) {
             String whole = word.matches("\\W+") ? Pattern.quote(word) : "\\b" + word + "\\b";
             checks.holds("no " + word + " in the source", !Pattern.compile(whole).matcher(code).find());
         }
+    }
+
+    /** What a name with a capital and a point behind it calls: the library, or a class inside. */
+    private static void library(Checks checks, String code) {
+        Set<String> inside = new TreeSet<>();
+        for (Class<?> one : TransformRows.class.getDeclaredClasses()) {
+            inside.add(one.getSimpleName());
+        }
+        Matcher calls = Pattern.compile("\\b([A-Z][a-z]\\w*)\\.(\\w+)").matcher(code);
+        int seen = 0;
+        while (calls.find()) {
+            seen++;
+            checks.holds("the library has no " + calls.group(),
+                    inside.contains(calls.group(1)) || LIBRARY.contains(calls.group()));
+        }
+        checks.holds("calls were seen", seen > 50);
+    }
+
+    /** No call makes an object or an array: all are made with the TransformRows, for its fields. */
+    private static void newOnes(Checks checks, String code) {
+        int seen = 0;
+        for (String line : code.split("\n")) {
+            if (Pattern.compile("\\b(new|clone|copyOf|copyOfRange)\\b").matcher(line).find()) {
+                seen++;
+                checks.holds("made for a field alone: " + line.trim(),
+                        line.matches("\\s+private final [\\w\\[\\]]+ \\w+ = new [^;]+;"));
+            }
+        }
+        checks.holds("rows are made", seen > 20);
+    }
+
+    /** Methods of some sixty lines, classes of some twenty fields beside their constants. */
+    private static void parts(Checks checks, String code) {
+        Matcher methods = Pattern.compile("(?ms)^( +)[^ \n][^\n]*\\) \\{$.*?^\\1\\}$").matcher(code);
+        int seen = 0;
+        while (methods.find()) {
+            seen++;
+            long lines = methods.group().lines().count();
+            checks.holds("a short method, of " + lines + " lines: " + methods.group().lines().findFirst().get().trim(),
+                    lines <= 60);
+        }
+        checks.holds("methods were seen", seen > 80);
+        countFields(checks, TransformRows.class);
+        for (Class<?> one : TransformRows.class.getDeclaredClasses()) {
+            countFields(checks, one);
+        }
+    }
+
+    private static void countFields(Checks checks, Class<?> one) {
+        int fields = 0;
+        for (Field field : one.getDeclaredFields()) {
+            fields += Modifier.isStatic(field.getModifiers()) ? 0 : 1;
+        }
+        checks.holds(fields + " fields of " + one, fields <= 20);
     }
 }

@@ -21,6 +21,7 @@ public final class GroupsEdgesTest {
         groupUpTo500();
         groupBeyond500();
         groupWithoutRoomInOrder();
+        groupWithoutRoomBehindMost();
         noSeedsAnyMore();
         groupsNeedNoMaps();
         elementsBeforeAGroup();
@@ -239,6 +240,21 @@ public final class GroupsEdgesTest {
         shiftAt("the mirror first", x, 2, 300);
         CHECKS.elementDue("the mirror, then the shift", x, 3, 1, 0, 300, 0, -1, 0, 0, 0, 1);
         standing("the mirror first", x, 4);
+    }
+
+    /** Of "0: there would be more" and "ROOM", what comes first: one that is there is looked at, one by one. */
+    private static void groupWithoutRoomBehindMost() {
+        TransformRows x = withShift(300);
+        due("the next one has NO ROOM", group(x, 2, SHIFT), ROOM);
+        shiftAt("the next one has NO ROOM", x, 1, 300);
+        standing("the next one has NO ROOM", x, 2);
+        due("one that is not there comes first", group(x, 2, SHIFT, MIRROR), 0);
+        standing("one that is not there comes first", x, 2);
+        due("of 3, the next one has NO ROOM", group(x, 3, SHIFT, MIRROR), ROOM);
+        standing("of 3, the next one has NO ROOM", x, 3);
+        TransformRows y = withShift(500);
+        due("one that is there, then NO ROOM", group(y, 2, SHIFT, SHIFT), ROOM);
+        standing("one that is there, then NO ROOM", y, 2);
     }
 
     /** "No SEEDS are there any more.": after all, after 0, after ROOM. */
